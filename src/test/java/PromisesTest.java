@@ -29,6 +29,7 @@ final class PromisesTest {
         compactAtABaseThatIsDurable();
         compactAndRemovals();
         compactForgetsRemovalsThatACrashLost();
+        compactTellsNewRemovalsFromOld();
         compactKeepsSegmentsAndOffsets();
         value();
         key();
@@ -439,6 +440,29 @@ final class PromisesTest {
         check.keys(log, 1, "19");
         check.due("compact()", log.compact(), 1);
         check.records(log);
+    }
+
+    private static void compactTellsNewRemovalsFromOld() {
+        SegmentLog again = new SegmentLog();
+        for (int i = 0; i < 3; i++) {
+            again.remove(1);
+            again.roll();
+            again.flush();
+            check.due("compact() leaves the new removal", again.compact(), 0);
+            check.due("compact() takes the old removal", again.compact(), 1);
+        }
+
+        SegmentLog moved = new SegmentLog();
+        moved.append(1, 1);
+        moved.roll();
+        moved.flush();
+        moved.compact();
+        moved.remove(2);
+        moved.roll();
+        moved.flush();
+        check.due("retain(1)", moved.retain(1), 1);
+        check.due("compact(), the removal is new", moved.compact(), 0);
+        check.due("compact(), the removal is old", moved.compact(), 1);
     }
 
     private static void compactKeepsSegmentsAndOffsets() {
