@@ -1,5 +1,3 @@
-import java.util.Random;
-
 /** Makes mixed calls from a seed, always the same ones for the same seed. */
 final class CallMaker {
     static final String[] READS = {
@@ -8,25 +6,25 @@ final class CallMaker {
     private static final String[] RARE_CHANGES = {"crash", "roll", "retain", "compact", "flush"};
     private static final int[] WRONG = {Integer.MIN_VALUE, -2, -1, Integer.MAX_VALUE};
 
-    private final Random random;
+    private long state;
     private final int keys;
     private final int rareOfHundred;
     private final int readsOfHundred;
 
     CallMaker(long seed) {
-        random = new Random(seed);
-        keys = 1 + random.nextInt(16);
-        rareOfHundred = 2 + random.nextInt(40);
-        readsOfHundred = random.nextInt(50);
+        state = seed;
+        keys = 1 + below(16);
+        rareOfHundred = 2 + below(40);
+        readsOfHundred = below(50);
     }
 
     int below(int bound) {
-        return random.nextInt(bound);
+        return Math.floorMod(number(), bound);
     }
 
     /** The log's end tells which offsets are worth asking for. */
     Call call(int end) {
-        int dice = random.nextInt(100);
+        int dice = below(100);
         if (dice < rareOfHundred) {
             return new Call(RARE_CHANGES[below(RARE_CHANGES.length)], orWrong(below(45)), 0);
         }
@@ -37,7 +35,7 @@ final class CallMaker {
             case 0: return new Call("poll", orWrong(below(5)), 0);
             case 1: return new Call("commit", orWrong(below(5)), orWrong(below(end + 3)));
             case 2: return new Call("remove", orWrong(below(keys)), 0);
-            default: return new Call("append", orWrong(below(keys + below(2))), random.nextInt());
+            default: return new Call("append", orWrong(below(keys + below(2))), number());
         }
     }
 
@@ -52,5 +50,13 @@ final class CallMaker {
 
     private int orWrong(int right) {
         return below(30) == 0 ? WRONG[below(WRONG.length)] : right;
+    }
+
+    /** SplitMix64, so that the runs are the same on every machine and no random source is asked. */
+    private int number() {
+        state += 0x9E3779B97F4A7C15L;
+        long mixed = (state ^ (state >>> 30)) * 0xBF58476D1CE4E5B9L;
+        mixed = (mixed ^ (mixed >>> 27)) * 0x94D049BB133111EBL;
+        return (int) (mixed >>> 32);
     }
 }
