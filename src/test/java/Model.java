@@ -1,4 +1,5 @@
 import java.util.ArrayList;
+import java.util.Arrays;
 import java.util.HashMap;
 import java.util.List;
 import java.util.Map;
@@ -52,6 +53,14 @@ final class Model {
             case "durable": return text(durable);
             default: throw new IllegalArgumentException(call.name);
         }
+    }
+
+    /** All that later answers can hang on: two models with the same text answer alike for ever. */
+    String state() {
+        StringBuilder all = new StringBuilder();
+        records.forEach((offset, entry) -> all.append(offset).append(' ').append(entry.key).append(' ')
+            .append(entry.value).append(' ').append(entry.left).append("; "));
+        return all + "" + bases + Arrays.toString(positions) + start + " " + durable + " " + end;
     }
 
     private int add(int key, Integer value) {
